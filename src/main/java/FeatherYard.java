@@ -1704,27 +1704,25 @@ public final class FeatherYard {
         }
 
         private boolean takesSum() {
-            boolean right = takesPart();
-            for (int n = 0; n < TAPE && right && reader.seesSign('+'); n++) {
+            for (int parts = 0; parts < TAPE; parts++) {
+                int fact = factSeen();
+                if (fact != NONE) {
+                    law.putFact(fact);
+                    reader.step();
+                } else if (reader.takesNumber(0, 999)) {
+                    law.put(reader.value);
+                } else {
+                    return false;
+                }
+                if (parts > 0) {
+                    law.put(Law.PLUS);
+                }
+                if (!reader.seesSign('+')) {
+                    return true;
+                }
                 reader.step();
-                right = takesPart();
-                law.put(Law.PLUS);
             }
-            return right;
-        }
-
-        private boolean takesPart() {
-            int fact = factSeen();
-            if (fact != NONE) {
-                law.putFact(fact);
-                reader.step();
-                return true;
-            }
-            if (!reader.takesNumber(0, 999)) {
-                return false;
-            }
-            law.put(reader.value);
-            return true;
+            return reader.refuse();
         }
 
         private int factSeen() {

@@ -155,6 +155,18 @@ public final class AskTest {
         Check.due("all else as it is", 12, () -> x.count(6));
         Check.due("no act", 0, () -> x.count(14));
         Check.due("when for the other one", 0, () -> x.when(1, 0));
+        Check.law(x, "west 9 if hour < 24");
+        Check.due("never good: the least", 0, () -> x.when(0, 1));
+        Check.law(x, "west 9 if hour < 23");
+        Check.due("the last hour", 23, () -> x.when(0, 1));
+        Check.due("not good at noon", 0, () -> x.ways(0, 0));
+        x.hour(23);
+        Check.due("good in the last hour", 6561, () -> x.ways(0, 0));
+        x.image();
+        x.hour(1);
+        Check.due("not good then", 0, () -> x.ways(0, 0));
+        x.back();
+        Check.due("good again", 6561, () -> x.ways(0, 0));
         Check.index("when", () -> x.when(3, 0));
         Check.index("when", () -> x.when(0, -1));
     }
@@ -204,6 +216,9 @@ public final class AskTest {
         Check.due("no choices", -1, () -> x.rests(1, true));
         x.call(0, 0, 2);
         Check.state("not open", () -> x.rests(0, false));
+        FeatherYard z = Check.yard(THREE, "counsel 020;case 3 1 present bc;yard 7 to 8");
+        Check.due("choices of their own", 1, () -> z.rests(0, false));
+        Check.due("choices of their own", 12, () -> z.rests(0, true));
         FeatherYard y = Check.yard(THREE, "case 1 0 present abc;yard 7 to 8");
         Check.due("whatever meets the one, has it never", 5, () -> y.rests(0, false));
         Check.due("the least of several", 0, () -> y.rests(0, true));
@@ -376,6 +391,9 @@ public final class AskTest {
         Check.due("over by that yard", 8, () -> x.widest(0));
         Check.law(x, "lift 9");
         Check.due("good nowhere", 0, () -> x.widest(0));
+        Check.court(x, "yard 5 to 6");
+        Check.law(x, "east 7 if breath<1;west 9 if over and breath>0;east 1 if not over and breath>0");
+        Check.due("no yard goes beyond column 15", 0, () -> x.widest(0));
         Check.index("widest", () -> x.widest(3));
         Check.index("widest", () -> x.widest(-1));
     }

@@ -114,6 +114,17 @@ public final class TextsTest {
         Check.wrongCourt("hour 0001", 5);
         Check.wrongCourt("hour x", 5);
         Check.wrongCourt("hour -1", 5);
+        Check.wrongCourt("hour ; x", 5);
+        Check.wrongCourt("bird; x", 4);
+        Check.wrongCourt("bird falls 1; x", 12);
+        Check.wrongCourt("bird falls 1 light 1; x", 20);
+        Check.wrongCourt("bird falls 1 light 1 songs a; x", 28);
+        Check.wrongCourt("tower; x", 5);
+        Check.wrongCourt("tower 1; x", 7);
+        Check.wrongCourt("yard; x", 4);
+        Check.wrongCourt("yard 1; x", 6);
+        Check.wrongCourt("wind; x", 4);
+        Check.wrongCourt("wind 1; x", 6);
         Check.wrongCourt("hours 1", 0);
         Check.wrongCourt("Hour 1", 0);
         Check.wrongCourt("hour\t1", 4);
@@ -140,6 +151,9 @@ public final class TextsTest {
         Check.wrongCourt(BIRD + ";counsel 1;case 0 0 present a", 55);
         String two = BIRD + ";counsel 1;counsel 1;";
         Check.wrongCourt(two + "case 0 1 present", 74);
+        Check.wrongCourt(two + "case; x", 62);
+        Check.wrongCourt(two + "case 0; x", 64);
+        Check.wrongCourt(two + "case 0 1; x", 66);
         Check.wrongCourt(two + "case 0 1 a", 67);
         Check.wrongCourt(two + "case 1 1 present a", 65);
         Check.wrongCourt(two + "case 0 2 present a", 65);
@@ -242,6 +256,8 @@ public final class TextsTest {
 
     private static void wrongLaws() {
         Check.wrongLaw("drop", 4);
+        Check.wrongLaw("drop; x", 4);
+        Check.wrongLaw("drop 1 if 1 < ; x", 14);
         Check.wrongLaw("drop 10", 5);
         Check.wrongLaw("drop 0001", 5);
         Check.wrongLaw("fall 1", 0);
