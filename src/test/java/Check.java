@@ -1,11 +1,60 @@
+import java.io.IOException;
 import java.nio.charset.StandardCharsets;
+import java.nio.file.Files;
+import java.nio.file.Path;
+import java.util.TreeSet;
 import java.util.concurrent.Callable;
 
-/** What the tests share: an answer that is due, and texts put on a tape. */
+/** What the tests share: an answer that is due, the sentence it is due by, and texts put on a tape. */
 final class Check {
+    private static final String WRONG_TEXT = "throws.IllegalArgumentException";
     static int wrong = 0;
+    private static String sentence = "";
+    private static String document = null;
+    private static final TreeSet<Integer> promises = new TreeSet<>();
 
     private Check() {
+    }
+
+    /** The promise and the document's sentence by which the answers that follow are due. */
+    static void says(int promise, String words) {
+        sentence = "promise " + promise + " \"" + words + "\": ";
+        promises.add(promise);
+        if (!document().isEmpty() && !document().contains(plain(words))) {
+            fail("the document does not say so");
+        }
+    }
+
+    private static String document() {
+        if (document == null) {
+            Path file = Path.of(System.getenv().getOrDefault("SHARED", "../shared"), "DOC.md");
+            try {
+                document = plain(Files.readString(file));
+            } catch (IOException e) {
+                System.out.println("there is no " + file + " to look the sentences up in");
+                document = "";
+            }
+        }
+        return document;
+    }
+
+    private static String plain(String text) {
+        return text.replaceAll("\\s+", " ");
+    }
+
+    /** Each of these promises has had a sentence. */
+    static void allSaid(int from, int to) {
+        sentence = "";
+        for (int promise = from; promise <= to; promise++) {
+            if (!promises.contains(promise)) {
+                fail("no sentence of promise " + promise + " is tested");
+            }
+        }
+    }
+
+    private static void fail(String what) {
+        wrong++;
+        System.out.println(sentence + what);
     }
 
     /** What a call answers: its number, or throws.Name. */
@@ -24,8 +73,7 @@ final class Check {
     static void due(String name, Object want, Callable<?> call) {
         String got = answer(call);
         if (!got.equals(String.valueOf(want))) {
-            wrong++;
-            System.out.println(name + " answered " + got + ", due is " + want);
+            fail(name + " answered " + got + ", due is " + want);
         }
     }
 
@@ -85,17 +133,21 @@ final class Check {
         return x;
     }
 
-    static void rightCourt(String text) {
-        FeatherYard x = new FeatherYard();
-        due("court of '" + text + "'", 1, () -> court(x, text));
+    /** The text is right behind texts that were right. */
+    static FeatherYard rightCourt(String text, String... before) {
+        FeatherYard x = yard(before);
+        due("court of '" + text + "'", before.length + 1, () -> court(x, text));
         due("fault of '" + text + "'", -1, x::fault);
+        return x;
     }
 
-    static void wrongCourt(String text, int at) {
-        FeatherYard x = new FeatherYard();
-        argument("court of '" + text + "'", () -> court(x, text).equals("throws.IllegalArgumentException") ? fail() : 0);
+    /** The text is wrong there behind texts that were right. */
+    static FeatherYard wrongCourt(String text, int at, String... before) {
+        FeatherYard x = yard(before);
+        due("court of '" + text + "'", WRONG_TEXT, () -> court(x, text));
         due("fault of '" + text + "'", at, x::fault);
-        due("texts behind '" + text + "'", 0, () -> x.count(3));
+        due("texts behind '" + text + "'", before.length, () -> x.count(3));
+        return x;
     }
 
     static void rightLaw(String text, int lines) {
@@ -107,13 +159,39 @@ final class Check {
 
     static void wrongLaw(String text, int at) {
         FeatherYard x = new FeatherYard();
-        argument("law of '" + text + "'", () -> law(x, text).equals("throws.IllegalArgumentException") ? fail() : 0);
+        due("law of '" + text + "'", WRONG_TEXT, () -> law(x, text));
         due("fault of '" + text + "'", at, x::fault);
         due("lines behind '" + text + "'", -1, () -> x.count(4));
     }
 
-    private static int fail() {
-        throw new IllegalArgumentException();
+    /** All that can be told of an object, but for its tape, fault and image. */
+    static String told(FeatherYard x) {
+        StringBuilder b = new StringBuilder("counts");
+        for (int what = 0; what <= 14; what++) {
+            b.append(' ').append(x.count(what));
+        }
+        b.append(" winds");
+        for (int level = 0; level <= 12; level++) {
+            b.append(' ').append(x.wind(level));
+        }
+        for (int bird = 0; bird < x.count(0); bird++) {
+            b.append(" bird ").append(x.bird(bird, 0)).append(x.bird(bird, 1)).append(' ').append(x.bird(bird, 2));
+            b.append(' ').append(x.bird(bird, 3)).append(" moves ").append(x.moves(bird, 8, 7, 0, false));
+            b.append(' ').append(x.moves(bird, 8, 7, 0, true)).append(" good ").append(x.ways(bird, 0)).append(" stocks");
+            for (int counsel = 0; counsel < x.count(1); counsel++) {
+                b.append(' ').append(x.stock(counsel, bird));
+            }
+        }
+        for (int matter = 0; matter < x.count(2); matter++) {
+            b.append(" case ").append(x.matter(matter, 0)).append(x.matter(matter, 1)).append(' ');
+            b.append(x.matter(matter, 2)).append(" end ").append(x.matter(matter, 3));
+        }
+        for (int what = 0; what <= 5; what++) {
+            b.append(" log ").append(x.log(0, what)).append(' ').append(x.log(x.count(13) - 1, what));
+        }
+        int seed = x.seed(0);
+        x.seed(seed);
+        return b.append(" seed ").append(seed).toString();
     }
 
     static void close(String name) {
