@@ -123,6 +123,17 @@ final class Check {
         return answer(x::law);
     }
 
+    /** A text that has to be right, for what is asked behind it. */
+    static void tellCourt(FeatherYard x, String text) {
+        due("court of '" + text + "'", x.count(3) + 1, () -> court(x, text));
+    }
+
+    /** A law that has to be right, for what is asked behind it. */
+    static void layDown(FeatherYard x, String text) {
+        int lines = text.isBlank() ? 0 : text.split(";").length;
+        due("law of '" + text + "'", lines, () -> law(x, text));
+    }
+
     /** A new object with these texts of the court. */
     static FeatherYard yard(String... texts) {
         FeatherYard x = new FeatherYard();

@@ -16,8 +16,10 @@ public final class CourtEdgesTest {
         stock();
         matter();
         choices();
+        ends();
         wind();
         movesBounds();
+        movesParts();
         movesHighAndOver();
         movesSinks();
         movesCarried();
@@ -113,7 +115,8 @@ public final class CourtEdgesTest {
         for (int n : OUTSIDE) {
             Check.index("case " + n, () -> x.matter(n, 0));
         }
-        Check.says(9, "2 PRESENT, as bits, 3 the END, 4, 5 CHOICES of both, as bits. NoSuchElementException: another what.");
+        Check.says(9, "Of a CASE what 0, 1 both COUNSEL, 2 PRESENT, as bits, 3 the END, 4, 5 CHOICES of both, as bits."
+            + " NoSuchElementException: another what.");
         int[] want = {3, 2, 63, 0, 63, 63};
         for (int w = 0; w < want.length; w++) {
             int what = w;
@@ -141,6 +144,26 @@ public final class CourtEdgesTest {
         Check.due("none is left", 0, () -> x.matter(0, 4));
     }
 
+    private static void ends() {
+        Check.says(9, "an END: 0 open, 1 the first one has it, 2 the second one, 3 a marriage, 4 as if they had never met.");
+        FeatherYard x = falling("yard 7 to 7");
+        Check.due("open", 0, () -> x.matter(1, 3));
+        int[][] calls = {{1, 2, 1}, {2, 1, 2}, {1, 1, 3}, {2, 2, 3}};
+        for (int[] c : calls) {
+            x.call(1, c[0], c[1]);
+            Check.due("called with " + c[0] + " and " + c[1], c[2], () -> x.matter(1, 3));
+            Check.due("the other case", 0, () -> x.matter(0, 3));
+            x.appeal(1);
+            Check.due("opened again", 0, () -> x.matter(1, 3));
+        }
+        Check.tellCourt(x, "yard 8 to 8");
+        x.call(1, 1, 2);
+        Check.due("never met", 4, () -> x.matter(1, 3));
+        Check.says(9, "Of a CASE what 0, 1 both COUNSEL,");
+        Check.due("the first one", 1, () -> x.matter(1, 0));
+        Check.due("the second one", 0, () -> x.matter(1, 1));
+    }
+
     private static void wind() {
         FeatherYard x = Check.yard("wind 0 east 1;wind 12 west 1");
         Check.says(10, "`int wind(int level) throws IndexOutOfBoundsException`: WIND of a LEVEL (0 to 12).");
@@ -154,7 +177,7 @@ public final class CourtEdgesTest {
 
     private static void movesBounds() {
         FeatherYard x = Check.yard(BIRD);
-        Check.law(x, "east 1 if breath > 6;east 2 if column > 14;east 4 if level > 11;drop 3 if level < 2 and column < 1");
+        Check.layDown(x, "east 1 if breath > 6;east 2 if column > 14;east 4 if level > 11;drop 3 if level < 2 and column < 1");
         Check.says(11, "A feather at a LEVEL (1 to 12) and COLUMN, so many BREATHS (0 to 7) gone by:");
         Check.due("the most of all", 7, () -> x.moves(0, 12, 15, 7, true));
         Check.due("less breaths", 6, () -> x.moves(0, 12, 15, 6, true));
@@ -180,15 +203,56 @@ public final class CourtEdgesTest {
         Check.index("no column, no breath", () -> x.moves(0, 1, 16, 8, false));
     }
 
+    /** Of a feather (bird, level, column, breath) the sum is just that. */
+    private static void part(FeatherYard x, String sum, String is, int... of) {
+        String law = "east 1 if " + sum + " + 1 > " + is + " and " + sum + " < " + is + " + 1";
+        Check.due(law, 1, () -> Check.law(x, law));
+        Check.due(sum + " is " + is, 1, () -> x.moves(of[0], of[1], of[2], of[3], true));
+    }
+
+    private static void movesParts() {
+        Check.says(11, "Of a feather: bird: its number; light: LIGHT; breath: how many went by;");
+        String still = "bird falls 1 light 0 songs a moults 0";
+        FeatherYard x = Check.yard(still + ";bird falls 1 light 3 songs a moults 0;" + still + ";" + still + ";" + still + ";" + still);
+        part(x, "bird", "0", 0, 8, 7, 0);
+        part(x, "bird", "5", 5, 8, 7, 0);
+        part(x, "light", "0", 0, 8, 7, 0);
+        part(x, "light", "3", 1, 8, 7, 0);
+        part(x, "breath", "0", 0, 8, 7, 0);
+        part(x, "breath", "7", 0, 8, 7, 7);
+        Check.says(11, "PART: NUMBER | bird | level | column | light | hour | breath.");
+        part(x, "level", "1", 0, 1, 7, 0);
+        part(x, "level", "12", 0, 12, 7, 0);
+        part(x, "column", "0", 0, 8, 0, 0);
+        part(x, "column", "15", 0, 8, 15, 0);
+        x.hour(0);
+        part(x, "hour", "0", 0, 8, 7, 0);
+        x.hour(23);
+        part(x, "hour", "23", 0, 8, 7, 0);
+        part(x, "0", "000", 0, 8, 7, 0);
+        part(x, "999", "998 + 1", 0, 8, 7, 0);
+        Check.says(11, "SUM: PART { + PART };");
+        part(x, "999 + 999 + 1 + 0", "998 + 998 + 3", 0, 8, 7, 0);
+        part(x, "bird + level + column + light + hour + breath", "61", 1, 12, 15, 7);
+        Check.says(11, "C: ALL { or ALL }; ALL: ATOM { and ATOM }; ATOM: not ATOM | ( C ) | high | over |");
+        String[][] due = {{"high or over and 1 < 0", "1"}, {"1 < 0 and high or high", "1"}, {"(high or over) and 1 < 0", "0"},
+            {"1 < 0 and (high or high)", "0"}, {"not high or high", "1"}, {"not (high or high)", "0"}, {"not 1 < 0 and high", "1"},
+            {"not not high", "1"}, {"not high and 1 < 0", "0"}, {"1 < 0 or 1 < 0 or high", "1"}, {"high and high and 1 < 0", "0"}};
+        for (String[] d : due) {
+            Check.due("law of " + d[0], 1, () -> Check.law(x, "east 1 if " + d[0]));
+            Check.due(d[0], d[1], () -> x.moves(0, 8, 0, 0, true));
+        }
+    }
+
     private static void movesHighAndOver() {
         FeatherYard x = Check.yard(BIRD);
-        Check.law(x, "east 1 if high;west 2 if over");
+        Check.layDown(x, "east 1 if high;west 2 if over");
         Check.says(11, "high: LEVEL is above the half of the TOP (rounded down);");
         int[][] tops = {{8, 4, 0}, {8, 5, 1}, {7, 3, 0}, {7, 4, 1}, {1, 1, 1}, {2, 1, 0}, {2, 2, 1}, {12, 6, 0}, {12, 7, 1},
             {11, 5, 0}, {11, 6, 1}};
         for (int[] t : tops) {
             FeatherYard y = Check.yard(BIRD, "tower 7 top " + t[0]);
-            Check.law(y, "east 1 if high");
+            Check.layDown(y, "east 1 if high");
             Check.due("top " + t[0] + " level " + t[1], t[2], () -> y.moves(0, t[1], 0, 0, true));
         }
         Check.due("above the top is high, too", 1, () -> x.moves(0, 12, 0, 0, true));
@@ -197,14 +261,14 @@ public final class CourtEdgesTest {
         Check.due("column 5", -2, () -> x.moves(0, 1, 5, 0, true));
         Check.due("column 9", -2, () -> x.moves(0, 1, 9, 0, true));
         Check.due("column 10", 0, () -> x.moves(0, 1, 10, 0, true));
-        Check.court(x, "yard 0 to 0");
+        Check.tellCourt(x, "yard 0 to 0");
         Check.due("column 0", -2, () -> x.moves(0, 1, 0, 0, true));
         Check.due("column 1", 0, () -> x.moves(0, 1, 1, 0, true));
-        Check.court(x, "yard 15 to 15");
+        Check.tellCourt(x, "yard 15 to 15");
         Check.due("column 15", -2, () -> x.moves(0, 1, 15, 0, true));
         Check.due("column 14", 0, () -> x.moves(0, 1, 14, 0, true));
         Check.says(11, "SUM < SUM | SUM > SUM.");
-        Check.law(x, "east 1 if level < 5;east 2 if level > 5;west 1 if 5 < level;west 2 if 5 > level");
+        Check.layDown(x, "east 1 if level < 5;east 2 if level > 5;west 1 if 5 < level;west 2 if 5 > level");
         Check.due("as many are neither", 0, () -> x.moves(0, 5, 0, 0, true));
         Check.due("one less", -1, () -> x.moves(0, 4, 0, 0, true));
         Check.due("one more", 1, () -> x.moves(0, 6, 0, 0, true));
@@ -218,14 +282,14 @@ public final class CourtEdgesTest {
         Check.due("FALLS of 0", 0, () -> x.moves(1, 8, 7, 0, false));
         int[][] due = {{7, 0, 11}, {8, 0, 12}, {9, 0, 12}, {0, 3, 1}, {0, 4, 0}, {0, 5, 0}, {9, 9, 4}};
         for (int[] d : due) {
-            Check.law(x, "drop " + d[0] + ";lift " + d[1]);
+            Check.layDown(x, "drop " + d[0] + ";lift " + d[1]);
             Check.due("drop " + d[0] + " lift " + d[1], d[2], () -> x.moves(0, 8, 7, 0, false));
         }
-        Check.law(x, "drop 9;drop 9;drop 9;drop 9;lift 9;lift 9;lift 9");
+        Check.layDown(x, "drop 9;drop 9;drop 9;drop 9;lift 9;lift 9;lift 9");
         Check.due("all sums ahead of the bounds", 12, () -> x.moves(0, 8, 7, 0, false));
-        Check.law(x, "lift 9;lift 9;drop 9;drop 5");
+        Check.layDown(x, "lift 9;lift 9;drop 9;drop 5");
         Check.due("all sums ahead of the bounds", 0, () -> x.moves(0, 8, 7, 0, false));
-        Check.law(x, "lift 9;drop 9;drop 1");
+        Check.layDown(x, "lift 9;drop 9;drop 1");
         Check.due("a lift line first", 5, () -> x.moves(0, 8, 7, 0, false));
     }
 
@@ -237,10 +301,10 @@ public final class CourtEdgesTest {
         Check.due("the least wind", -9, () -> x.moves(0, 1, 7, 0, true));
         Check.due("without light", 0, () -> x.moves(1, 12, 7, 0, true));
         Check.due("the wind of its level", 3, () -> x.moves(0, 2, 7, 0, true));
-        Check.law(x, "east 9;".repeat(11) + "east 9");
+        Check.layDown(x, "east 9;".repeat(11) + "east 9");
         Check.due("no bound above", 117, () -> x.moves(0, 12, 7, 0, true));
         Check.due("without light lines carry it, too", 108, () -> x.moves(1, 12, 7, 0, true));
-        Check.law(x, "west 9;".repeat(11) + "west 9");
+        Check.layDown(x, "west 9;".repeat(11) + "west 9");
         Check.due("no bound below", -117, () -> x.moves(0, 1, 7, 0, true));
     }
 
@@ -325,7 +389,7 @@ public final class CourtEdgesTest {
         }
         Check.says(12, "(The feathers fly on till both are down, BLOWN OFF or 8 BREATHS went by.)");
         FeatherYard off = falling("yard 7 to 7");
-        Check.law(off, "east 9 if bird > 1 and breath > 2");
+        Check.layDown(off, "east 9 if bird > 1 and breath > 2");
         off.call(0, 1, 2);
         Check.due("blown off in the fourth", drawn(1, 6), () -> off.seed(1));
         FeatherYard air = falling("tower 7 top 12");
@@ -372,12 +436,12 @@ public final class CourtEdgesTest {
         Check.due("the same last breath", 3, () -> x.call(0, 2, 2));
         FeatherYard y = falling("yard 8 to 8");
         Check.due("both beside", 4, () -> y.call(0, 1, 2));
-        Check.law(y, "east 9");
+        Check.layDown(y, "east 9");
         Check.due("both blown off", 4, () -> y.call(1, 1, 2));
         y.appeal(0);
-        Check.law(y, "lift 9");
+        Check.layDown(y, "lift 9");
         Check.due("both in the air", 4, () -> y.call(0, 1, 2));
-        Check.law(y, "east 1 if breath < 1 and bird < 2");
+        Check.layDown(y, "east 1 if breath < 1 and bird < 2");
         y.appeal(0);
         Check.due("the second one beside", 1, () -> y.call(0, 1, 2));
     }
@@ -385,11 +449,11 @@ public final class CourtEdgesTest {
     private static void callEndsLate() {
         Check.says(12, "Behind 8 BREATHS one that has not LANDED and is not BLOWN OFF is IN THE AIR for good.");
         FeatherYard x = falling("yard 7 to 7");
-        Check.law(x, "east 1 if bird < 2 and breath < 1");
+        Check.layDown(x, "east 1 if bird < 2 and breath < 1");
         Check.due("good in the 8th, the other beside in the 2nd", 2, () -> x.call(0, 1, 2));
         Check.due("its breath", 8, () -> x.log(0, 5));
         Check.due("good in the 8th, the other beside in the 2nd", 1, () -> x.call(1, 2, 1));
-        Check.law(x, "east 9 if bird < 2");
+        Check.layDown(x, "east 9 if bird < 2");
         x.appeal(0);
         Check.due("good in the 8th, the other blown off in the 1st", 2, () -> x.call(0, 1, 2));
         FeatherYard y = falling("tower 7 top 9;yard 7 to 7");
@@ -501,7 +565,7 @@ public final class CourtEdgesTest {
         Check.due("the second one's", 2, () -> x.appeal(0));
         x.call(0, 1, 1);
         Check.due("a marriage", 3, () -> x.appeal(0));
-        Check.law(x, "east 9");
+        Check.layDown(x, "east 9");
         x.call(0, 1, 1);
         Check.due("as if they had never met", 4, () -> x.appeal(0));
         Check.due("no feather comes back", 6, () -> x.stock(0, 1));
@@ -726,6 +790,9 @@ public final class CourtEdgesTest {
         FeatherYard x = new FeatherYard();
         Check.says(42, "the latest ACT not undone yet (12 are remembered; WEEKS of one call are one):");
         Check.due("none at first", 0, x::undo);
+        Check.says(42, "`boolean undo()`: UNDONE: whether there was one.");
+        Check.due("none that is remembered", 0, x::undo);
+        Check.says(42, "the latest ACT not undone yet (12 are remembered; WEEKS of one call are one):");
         for (int n = 1; n <= 13; n++) {
             x.hour(n - 1);
             int acts = Math.min(12, n);
@@ -784,11 +851,11 @@ public final class CourtEdgesTest {
         Check.says(42, "A text, going back: none are remembered.");
         FeatherYard x = falling("");
         x.hour(1);
-        Check.court(x, "");
+        Check.tellCourt(x, "");
         Check.due("an empty text", 0, () -> x.count(14));
         Check.due("none", 0, x::undo);
         x.hour(2);
-        Check.law(x, "");
+        Check.layDown(x, "");
         Check.due("an empty law", 0, x::undo);
         x.image();
         x.hour(3);
@@ -857,8 +924,8 @@ public final class CourtEdgesTest {
         Check.due("week", 0, () -> x.count(5));
         FeatherYard y = new FeatherYard();
         y.image();
-        Check.court(y, FALLING);
-        Check.law(y, "drop 1");
+        Check.tellCourt(y, FALLING);
+        Check.layDown(y, "drop 1");
         y.hour(1);
         y.back();
         Check.due("an image of a new object", Check.told(new FeatherYard()), () -> Check.told(y));
@@ -873,15 +940,15 @@ public final class CourtEdgesTest {
         Check.due("none was kept", 0, x::back);
         Check.due("nothing happens", before, () -> Check.told(x));
         Check.due("the act can still be undone", 1, x::undo);
-        Check.law(x, "drop 1 if level > 6;east 1 if over");
+        Check.layDown(x, "drop 1 if level > 6;east 1 if over");
         x.call(0, 1, 2);
         x.weeks(7);
         x.blow(12, -3);
         x.seed(-5);
         x.image();
         String kept = Check.told(x);
-        Check.law(x, "lift 1");
-        Check.court(x, BIRD + ";counsel 9999;case 2 0 present d;tower 1 top 1;yard 1 to 1;wind 12 east 3;hour 1");
+        Check.layDown(x, "lift 1");
+        Check.tellCourt(x, BIRD + ";counsel 9999;case 2 0 present d;tower 1 top 1;yard 1 to 1;wind 12 east 3;hour 1");
         x.call(1, 0, 0);
         x.appeal(0);
         x.give(0, 1, 0, 1);
@@ -914,7 +981,7 @@ public final class CourtEdgesTest {
         Check.due("no act", 0, x::undo);
         Check.says(44, "THE COURT is told in texts (at most 12, one behind another)");
         for (int i = 0; i < 12; i++) {
-            Check.court(x, "");
+            Check.tellCourt(x, "");
         }
         Check.due("12 texts", "throws.UnsupportedOperationException", () -> Check.court(x, ""));
         x.back();
@@ -930,12 +997,20 @@ public final class CourtEdgesTest {
         }
         Check.says(45, "0 BIRDS, 1 COUNSEL, 2 CASES, 3 texts of THE COURT, 4 LINES of THE LAW (NONE without one)");
         Check.due("no law", -1, () -> x.count(4));
-        Check.law(x, "");
+        Check.layDown(x, "");
         Check.due("a law of no lines", 0, () -> x.count(4));
         int[] want = {6, 4, 12, 4};
         for (int w = 0; w < want.length; w++) {
             int what = w;
             Check.due("the most of " + w, want[w], () -> x.count(what));
+        }
+        Check.says(45, "5 WEEK, 6 HOUR, 7 THE TOWER's COLUMN, 8 its TOP, 9, 10 THE YARD,");
+        FeatherYard y = Check.yard("tower 0 top 12;yard 1 to 14;hour 23");
+        y.weeks(60);
+        int[] most = {60, 23, 0, 12, 1, 14};
+        for (int w = 0; w < most.length; w++) {
+            int what = 5 + w;
+            Check.due("count(" + what + ")", most[w], () -> y.count(what));
         }
         Check.says(45, "11 CASES that are open, as bits, 12 1 if CALM, 13 rows of THE LOG, 14 acts that can be UNDONE.");
         Check.due("all open", 4095, () -> x.count(11));

@@ -10,6 +10,7 @@ public final class TextEdgesTest {
     public static void main(String[] args) {
         newObject();
         newObjectIsEmpty();
+        lastCall();
         feed();
         feedFull();
         end();
@@ -89,6 +90,16 @@ public final class TextEdgesTest {
         y.image();
         Check.due("another object is its own", Check.told(new FeatherYard()), () -> Check.told(x));
         Check.due("another object's image is its own", 0, x::back);
+    }
+
+    private static void lastCall() {
+        Check.says(1, "An object is used for at most 512 calls after it has been made; what later calls answer is free.");
+        FeatherYard x = new FeatherYard();
+        for (int n = 1; n <= 510; n++) {
+            x.hour(n % 24);
+        }
+        Check.due("the 511th call", 6, () -> x.hour(7));
+        Check.due("the 512th call", 1, x::undo);
     }
 
     private static void feed() {
@@ -242,10 +253,10 @@ public final class TextEdgesTest {
         Check.due("of the bird before", 1, () -> z.stock(1, 0));
         FeatherYard v = Check.yard(PAIR);
         v.image();
-        Check.court(v, BIRD);
+        Check.tellCourt(v, BIRD);
         v.weeks(9);
         v.back();
-        Check.court(v, BIRD);
+        Check.tellCourt(v, BIRD);
         Check.due("not as many as one that is gone had", 0, () -> v.stock(0, 1));
     }
 
@@ -435,7 +446,7 @@ public final class TextEdgesTest {
     private static void courtNothingStays() {
         Check.says(4, "Of a wrong text nothing stays.");
         FeatherYard x = Check.yard(PAIR, CASE + ";wind 3 east 2");
-        Check.law(x, "drop 1");
+        Check.layDown(x, "drop 1");
         x.call(0, 0, 0);
         x.weeks(1);
         String before = Check.told(x);
@@ -475,32 +486,32 @@ public final class TextEdgesTest {
         Check.wrongLaw(times("west 1", 13), 84);
         Check.wrongLaw(times("west 1", 12) + "; crow", 85);
         FeatherYard x = Check.yard(BIRD);
-        Check.law(x, times("west 1", 11) + ";west 9");
+        Check.layDown(x, times("west 1", 11) + ";west 9");
         Check.due("the 12th counts", -20, () -> x.moves(0, 8, 7, 0, true));
         String wide = "drop 1 if 0" + "+0".repeat(193) + "<1";
         Check.rightLaw(wide + " ", 1);
         String dense = "drop 1 if " + "1<2 and ".repeat(48) + "1<2";
-        Check.law(x, dense);
+        Check.layDown(x, dense);
         Check.due("a text of 397 bytes", 2, () -> x.moves(0, 8, 7, 0, false));
         String ors = "drop 1 if " + "1<0or ".repeat(64) + "0<1";
-        Check.law(x, ors);
+        Check.layDown(x, ors);
         Check.due("the last of many", 2, () -> x.moves(0, 8, 7, 0, false));
     }
 
     private static void lawNumbers() {
         Check.says(5, "All numbers are of 1 to 3 digits (N 0 to 9).");
         FeatherYard x = Check.yard(BIRD);
-        Check.law(x, "east 0");
+        Check.layDown(x, "east 0");
         Check.due("the least", 0, () -> x.moves(0, 8, 7, 0, true));
-        Check.law(x, "east 9");
+        Check.layDown(x, "east 9");
         Check.due("the most", 9, () -> x.moves(0, 8, 7, 0, true));
-        Check.law(x, "east 007");
+        Check.layDown(x, "east 007");
         Check.due("three digits", 7, () -> x.moves(0, 8, 7, 0, true));
         Check.wrongLaw("east 10", 5);
         Check.wrongLaw("east 010", 5);
         Check.wrongLaw("east 0009", 5);
         Check.wrongLaw("east -1", 5);
-        Check.law(x, "east 1 if 998 < 999;east 2 if 000 < 001;east 4 if 999 + 999 > 999");
+        Check.layDown(x, "east 1 if 998 < 999;east 2 if 000 < 001;east 4 if 999 + 999 > 999");
         Check.due("the numbers of a sum", 7, () -> x.moves(0, 8, 7, 0, true));
         Check.wrongLaw("east 1 if 1000 > 1", 10);
         Check.wrongLaw("east 1 if 0001 > 1", 10);
@@ -566,7 +577,7 @@ public final class TextEdgesTest {
             Check.due("still no law", -1, () -> x.count(4));
             Check.due("it sinks by FALLS", 1, () -> x.moves(0, 8, 7, 0, false));
         }
-        Check.law(x, "drop 2 if level > 7;east 1");
+        Check.layDown(x, "drop 2 if level > 7;east 1");
         x.weeks(1);
         String before = Check.told(x);
         for (String text : wrong) {
@@ -634,7 +645,7 @@ public final class TextEdgesTest {
         Check.rightLaw(" ", 0);
         Check.rightLaw(" ".repeat(400), 0);
         Check.due("LINES of none", -1, () -> x.count(4));
-        Check.law(x, "");
+        Check.layDown(x, "");
         Check.due("LINES of an empty one", 0, () -> x.count(4));
     }
 
@@ -687,7 +698,22 @@ public final class TextEdgesTest {
         Check.wrongCourt("counsel", 0, BIRD, times("counsel 1", 4));
         Check.wrongCourt(" case 9 9", 1, PAIR, times(CASE, 12));
         Check.wrongCourt("case", 0, PAIR, times(CASE, 12));
-        Check.says(6, "The first wrong byte: the begin of the first thing that cannot stand there");
+        Check.says(6, "The first wrong byte: the begin of the first thing that cannot stand there (a number of more digits, or out of"
+            + " its bounds, or that tells none that can be; figures, letters that are none such; a word that is none;");
+        Check.wrongCourt("hour 1;hour 0007", 12);
+        Check.wrongLaw("drop 1;drop 0007", 12);
+        Check.wrongCourt("hour 1;hour  24", 13);
+        Check.wrongLaw("drop 1;drop  10", 13);
+        Check.wrongCourt("case 1 2 present a", 7, PAIR);
+        Check.wrongCourt("case 2 1 present a", 5, PAIR);
+        Check.wrongCourt("case 1  1 present a", 8, PAIR);
+        Check.wrongCourt("counsel  12", 9, PAIR);
+        Check.wrongCourt("bird falls 1 light 1 songs  abcg moults 1", 28);
+        Check.wrongCourt("case 0 1 present  ab", 18, PAIR);
+        Check.wrongCourt("hour 1; hours 2", 8);
+        Check.wrongCourt("tower 1 tops 1", 8);
+        Check.wrongLaw("drop 1 if higher", 10);
+        Check.wrongLaw("drop 1;  dropp 1", 9);
         Check.wrongCourt("hour 24;crow", 5);
         Check.wrongCourt("hour 2;crow;hour 24", 7);
         Check.wrongLaw("drop 10;crow", 5);
@@ -702,10 +728,10 @@ public final class TextEdgesTest {
         Check.due("asked again", 0, x::fault);
         Check.law(x, "drop 10");
         Check.due("the latest", 5, x::fault);
-        Check.court(x, "hour 1");
+        Check.tellCourt(x, "hour 1");
         Check.due("a right one has none", -1, x::fault);
         Check.law(x, "crow");
-        Check.law(x, "");
+        Check.layDown(x, "");
         Check.due("an empty one has none", -1, x::fault);
         Check.court(x, "hour 24");
         Check.argument("a call that throws", () -> x.hour(24));
