@@ -291,10 +291,10 @@ public final class FeatherYard {
         reckonFates();
         Fates known = fates[bird];
         switch (what) {
-            case 0: return known.goodUpTo(BREATHS);
+            case 0: return known.allGood();
             case 1: return known.off;
             case 2: return known.aloft;
-            default: return ROWS - known.goodUpTo(BREATHS) - known.off - known.aloft;
+            default: return ROWS - known.allGood() - known.off - known.aloft;
         }
     }
 
@@ -366,7 +366,7 @@ public final class FeatherYard {
             court.from = shift;
             court.to = shift + to - from;
             reckoner.reckon(bird, guess);
-            int sum = guess.goodUpTo(BREATHS);
+            int sum = guess.allGood();
             if (sum > most) {
                 most = sum;
                 column = shift;
@@ -1214,9 +1214,9 @@ public final class FeatherYard {
             return landed[(breath - 1) * COLUMNS + column];
         }
 
-        int goodUpTo(int last) {
+        int allGood() {
             int sum = 0;
-            for (int breath = 1; breath <= last && breath <= BREATHS; breath++) {
+            for (int breath = 1; breath <= BREATHS; breath++) {
                 sum += goods[breath];
             }
             return sum;
@@ -1242,7 +1242,7 @@ public final class FeatherYard {
         }
 
         int neither(Fates other) {
-            return (ROWS - goodUpTo(BREATHS)) * (ROWS - other.goodUpTo(BREATHS));
+            return (ROWS - allGood()) * (ROWS - other.allGood());
         }
 
         boolean isAsGoodAs(Fates other) {

@@ -24,6 +24,7 @@ public final class AskEdgesTest {
         waysLanded();
         waysInTheAir();
         waysGood();
+        waysAnew();
         waysGusts();
         waysAhead();
         landsBounds();
@@ -182,6 +183,35 @@ public final class AskEdgesTest {
         for (int[] y : yards) {
             ways(Check.yard(THREE, "yard " + y[0] + " to " + y[1]), 1, y[2], 0, 0, y[3]);
         }
+    }
+
+    /** One object, asked again when its law, its yard or its winds are others. */
+    private static void waysAnew() {
+        Check.says(18, "WAYS what 0 GOOD, 1 BLOWN OFF, 2 IN THE AIR, 3 LANDED beside THE YARD.");
+        FeatherYard x = Check.yard(THREE);
+        for (int time = 0; time < 2; time++) {
+            Check.layDown(x, "east 9");
+            ways(x, 0, 0, ROWS, 0, 0);
+            Check.layDown(x, "lift 9");
+            ways(x, 0, 0, 0, ROWS, 0);
+            Check.layDown(x, "");
+            ways(x, 0, ROWS, 0, 0, 0);
+            Check.tellCourt(x, "yard 0 to 0");
+            ways(x, 0, 0, 0, 0, ROWS);
+            x.image();
+            Check.tellCourt(x, "yard 5 to 9");
+            ways(x, 0, ROWS, 0, 0, 0);
+            x.back();
+            ways(x, 0, 0, 0, 0, ROWS);
+            Check.tellCourt(x, "yard 7 to 7");
+            ways(x, 1, 2187, 0, 0, 4374);
+            x.blow(4, 1);
+            ways(x, 1, 1458, 0, 0, 5103);
+            x.undo();
+            ways(x, 1, 2187, 0, 0, 4374);
+        }
+        Check.tellCourt(x, DRIFTS);
+        ways(x, 3, 2187, 0, 0, 4374);
     }
 
     private static void waysGusts() {
@@ -349,6 +379,12 @@ public final class AskEdgesTest {
         FeatherYard wind = Check.yard(THREE, "wind 8 west 3;wind 4 west 2");
         straight("by winds", wind, 1, 2, 2);
         straight("without light", wind, 0, 7, 2);
+        straight("far off to the east", three("tower 15 top 4", "east 9;east 9"), 0, -1, -1);
+        straight("far off to the west", three("tower 0 top 4", "west 9;west 9"), 0, -1, -1);
+        FeatherYard one = Check.yard(THREE, "tower 7 top 9");
+        straight("one bird lands", one, 0, 7, 3);
+        straight("another one does not", one, 2, -1, -1);
+        straight("the one lands all the same", one, 0, 7, 3);
         straight("by the tower in column 0", Check.yard(THREE, "tower 0 top 8"), 1, 0, 2);
     }
 
@@ -392,6 +428,10 @@ public final class AskEdgesTest {
         odds("all in the 8th breath", x, 2, 2, 0, 0, ALL, 0);
         odds("with itself", x, 1, 1, 3645 * 2916, 2916 * 3645, 3645 * 3645, 2916 * 2916);
         odds("one good at times", x, 1, 2, 3645 * ROWS, 2916 * ROWS, 0, 0);
+        FeatherYard low = Check.yard(THREE, "tower 7 top 4");
+        odds("all in the 1st breath", low, 0, 0, 0, 0, ALL, 0);
+        odds("the 1st breath and the 4th", low, 0, 2, ALL, 0, 0, 0);
+        odds("the 4th breath and the 1st", low, 2, 0, 0, ALL, 0, 0);
         FeatherYard never = Check.yard(THREE, "yard 0 to 0");
         odds("never", never, 0, 1, 0, 0, 0, ALL);
         FeatherYard off = three("", "east 9 if bird < 1");

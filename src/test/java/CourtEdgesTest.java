@@ -237,9 +237,19 @@ public final class CourtEdgesTest {
         Check.says(11, "C: ALL { or ALL }; ALL: ATOM { and ATOM }; ATOM: not ATOM | ( C ) | high | over |");
         String[][] due = {{"high or over and 1 < 0", "1"}, {"1 < 0 and high or high", "1"}, {"(high or over) and 1 < 0", "0"},
             {"1 < 0 and (high or high)", "0"}, {"not high or high", "1"}, {"not (high or high)", "0"}, {"not 1 < 0 and high", "1"},
-            {"not not high", "1"}, {"not high and 1 < 0", "0"}, {"1 < 0 or 1 < 0 or high", "1"}, {"high and high and 1 < 0", "0"}};
+            {"high and not high", "0"}, {"high and not over", "1"}, {"1 < 0 or not high", "0"}, {"over or not over", "1"},
+            {"not (high and not (over or not high))", "0"}, {"not not high", "1"}, {"not high and 1 < 0", "0"},
+            {"1 < 0 or 1 < 0 or high", "1"}, {"high and high and 1 < 0", "0"}};
         for (String[] d : due) {
             Check.due("law of " + d[0], 1, () -> Check.law(x, "east 1 if " + d[0]));
+            Check.due(d[0], d[1], () -> x.moves(0, 8, 0, 0, true));
+        }
+        Check.says(11, "( and not within one another at most 6 deep.");
+        String deep = "1<0 or high and (".repeat(6);
+        String[][] deepest = {{deep + "0+1<1+1" + ")".repeat(6), "1"}, {deep + "0+1<1+0" + ")".repeat(6), "0"},
+            {"not not not not not not 0+1<1+1", "1"}, {"not not not not not 0+1<1+1", "0"}};
+        for (String[] d : deepest) {
+            Check.layDown(x, "east 1 if " + d[0]);
             Check.due(d[0], d[1], () -> x.moves(0, 8, 0, 0, true));
         }
     }
@@ -597,6 +607,9 @@ public final class CourtEdgesTest {
         Check.due("60", 2 * (85 + 60), () -> x.weeks(60));
         Check.due("week 61", 61, () -> x.count(5));
         Check.due("without counsel", 0, () -> new FeatherYard().weeks(60));
+        FeatherYard all = full();
+        Check.due("a feather of each of six to each of four", 24, () -> all.weeks(1));
+        Check.due("the last of the last", 2, () -> all.stock(3, 5));
         FeatherYard y = Check.yard(BIRD);
         Check.due("without counsel", 0, () -> y.weeks(1));
         Check.due("a week all the same", 1, () -> y.count(5));

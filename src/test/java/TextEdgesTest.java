@@ -39,6 +39,8 @@ public final class TextEdgesTest {
         blanks();
         emptyTexts();
         moreMustCome();
+        lineEndsEarly();
+        otherWords();
         tooMany();
         fault();
         Check.allSaid(1, 6);
@@ -685,6 +687,70 @@ public final class TextEdgesTest {
         Check.wrongLaw("drop 1 if (high", 15);
         Check.wrongLaw("drop 1;", 7);
         Check.wrongLaw(" ".repeat(393) + "lift 1;", 400);
+    }
+
+    private static final String[] COURT_LINES = {"bird falls 1 light 1 songs a moults 1", "counsel 1", "case 0 1 present a",
+        "tower 1 top 1", "yard 1 to 2", "wind 1 east 1", "wind 1 west 1", "hour 1"};
+    private static final String[] LAW_LINES = {"drop 1", "lift 1", "east 1", "west 1", "drop 1 if high", "drop 1 if over",
+        "drop 1 if not high and over or high", "drop 1 if bird + level < column + light", "drop 1 if hour > breath",
+        "drop 1 if ( high )", "drop 1 if 1 < 1 + 1"};
+
+    /** What of these lines of the law is a line, too. */
+    private static final String LAW_LINE = "drop 1( if ((not )?high( and over)?|bird \\+ level < column|1 < 1))?";
+
+    private static void wrong(boolean law, String text, int at) {
+        if (law) {
+            Check.wrongLaw(text, at);
+        } else {
+            Check.wrongCourt(text, at, PAIR);
+        }
+    }
+
+    /** Where a thing more must come, the ; that comes instead is wrong, and nothing behind it is looked at. */
+    private static void lineEndsEarly() {
+        Check.says(6, "The first wrong byte: the begin of the first thing that cannot stand there");
+        for (String[] lines : new String[][] {COURT_LINES, LAW_LINES}) {
+            boolean law = lines == LAW_LINES;
+            for (String line : lines) {
+                String[] things = line.split(" ");
+                String begun = "";
+                for (String thing : things) {
+                    begun += (begun.isEmpty() ? "" : " ") + thing;
+                    boolean done = begun.equals(line) || law && begun.matches(LAW_LINE);
+                    int at = begun.length();
+                    wrong(law, begun + ";crow", done ? at + 1 : at);
+                    wrong(law, begun + " ; crow", done ? at + 3 : at + 1);
+                    wrong(law, begun + "#;crow", at);
+                }
+            }
+        }
+    }
+
+    /** Each word with another letter, a letter less or a letter more is none. */
+    private static void otherWords() {
+        Check.says(6, "a word that is none;");
+        for (String[] lines : new String[][] {COURT_LINES, LAW_LINES}) {
+            boolean law = lines == LAW_LINES;
+            for (String line : lines) {
+                int at = 0;
+                for (String thing : line.split(" ")) {
+                    if (thing.length() > 1) {
+                        String ahead = line.substring(0, at);
+                        String behind = line.substring(at + thing.length());
+                        int last = thing.length() - 1;
+                        for (int i = 0; i <= last; i++) {
+                            wrong(law, ahead + thing.substring(0, i) + "z" + thing.substring(i + 1) + behind, at);
+                        }
+                        wrong(law, ahead + thing.substring(0, last) + behind, at);
+                        wrong(law, ahead + thing.substring(1) + behind, at);
+                        wrong(law, ahead + thing + thing.charAt(last) + behind, at);
+                        wrong(law, ahead + "a" + thing + behind, at);
+                        wrong(law, ahead + thing.substring(0, 1).toUpperCase() + thing.substring(1) + behind, at);
+                    }
+                    at += thing.length() + 1;
+                }
+            }
+        }
     }
 
     private static void tooMany() {
