@@ -228,7 +228,8 @@ public final class AskEdgesTest {
                 Check.due("light of " + b + " in " + c, want[b][c - 6], () -> x.lands(bird, column));
             }
         }
-        Check.says(18, "All by GUSTS alike in chance (3 by 3 ..): WAYS of a BIRD: of the 6561 rows of 8 GUSTS (those it needs not, too) in how many its feather is GOOD;");
+        Check.says(18, "All by GUSTS alike in chance (3 by 3 ..): WAYS of a BIRD: of the 6561 rows of 8 GUSTS"
+            + " (those it needs not, too) in how many its feather is GOOD;");
         ways(x, 1, ROWS, 0, 0, 0);
         ways(Check.yard(birds, "tower 0 top 4"), 1, 0, 2187, 0, 4374);
         FeatherYard long8 = Check.yard("bird falls 1 light 1 songs a moults 0;yard 15 to 15");
