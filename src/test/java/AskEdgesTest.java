@@ -516,6 +516,8 @@ public final class AskEdgesTest {
         }
         Check.layDown(x, "east 1 if bird < 1 and hour < 23");
         Check.due("the last hour alone", 23, () -> x.when(0, 2));
+        Check.layDown(x, "east 1 if bird < 1 and hour < 24");
+        Check.due("no 24th hour", 0, () -> x.when(0, 2));
         Check.layDown(x, "east 1 if bird < 1 and hour > 0");
         Check.due("the first hour alone", 0, () -> x.when(0, 2));
         Check.layDown(x, "east 1 if bird > 1 and hour > 12");
