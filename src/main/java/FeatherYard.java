@@ -17,6 +17,7 @@ public final class FeatherYard {
     private static final int BREATHS = 8;
     private static final int ROWS = 6561;
     private static final int PAIRS = ROWS * ROWS;
+    private static final int SETS = 1 << BIRDS;
     private static final int STOCK_MOST = 99;
     private static final int WEEK_MOST = 9999;
     private static final int WIND_MOST = 3;
@@ -504,7 +505,7 @@ public final class FeatherYard {
         reckonFates();
         int own = court.bench.choices(matter, false);
         int others = court.bench.choices(matter, true);
-        int least = Integer.MAX_VALUE;
+        int least = PAIRS + 1;
         int pair = NONE;
         for (int bird = 0; bird < court.birds; bird++) {
             for (int other = 0; other < court.birds; other++) {
@@ -543,7 +544,7 @@ public final class FeatherYard {
     public int ask() throws IllegalArgumentException {
         int length = useTapeUp();
         needSongs(length);
-        int least = Integer.MAX_VALUE;
+        int least = SETS + 1;
         int song = NONE;
         for (int asked = 0; asked < SONGS; asked++) {
             int with = setsThatSing(asked, length, 1);

@@ -8,6 +8,7 @@ import java.util.ArrayList;
 import java.util.Arrays;
 import java.util.List;
 import java.util.TreeSet;
+import java.util.regex.Pattern;
 
 /** The public face of the document, and those rules of LANGUAGE.md that can be seen from outside. */
 public final class FaceTest {
@@ -42,6 +43,11 @@ public final class FaceTest {
 
     private static final String[] BARRED = {"->", "::", "finally", "synchronized", "assert", "Exact", "catch",
         "instanceof", "static {", "double", "float", "import java.io", "System.out", "lambda", "hashCode", "getMessage"};
+
+    /** What rule 4 lists of the library's classes: functions alone, no constants of theirs. */
+    private static final Pattern LIBRARY = Pattern.compile(
+        "\\b(Integer|Long|Math|Arrays|System|String|StringBuilder|List)\\.(?!(compare|max|min|abs|bitCount|floorDiv"
+        + "|floorMod|arraycopy|copyOf|copyOfRange|fill|of)\\()\\w+");
 
     public static void main(String[] args) throws Exception {
         face();
@@ -107,6 +113,8 @@ public final class FaceTest {
             for (String word : BARRED) {
                 Check.due("line " + (i + 1) + " has " + word, 0, () -> line.contains(word) ? 1 : 0);
             }
+            Check.due("line " + (i + 1) + " keeps to the library's functions", 0,
+                () -> LIBRARY.matcher(line).find() && !line.startsWith("import ") ? 1 : 0);
             Check.due("line " + (i + 1) + " is at most 120 wide", 1, () -> line.length() <= 120);
             if (line.matches("    (    )?[^ /*].*\\) ?(throws .*)?\\{") || line.matches("            throws .*\\{")) {
                 begin = i;
